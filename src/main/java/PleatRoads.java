@@ -9,7 +9,7 @@ public final class PleatRoads {
     private static final int MOST_DOINGS = 4, MOST_SUMMERS = 30, SLOTS = 2, MOST_BREATH = 9;
     private static final int CRACKED = 1, SMOOTH = 2, INN = 3;
     private static final int STOUT = 1, ASTHMATIC = 2, LUNGS = 3;
-    private static final int BACK = 0, ON = 1, CHOICES = 3, PAIRS = CHOICES * CHOICES;
+    private static final int ON = 1, STAND = 2, CHOICES = 3, PAIRS = CHOICES * CHOICES;
     private static final int ICED_AT_MOST = 8, TENTHS = 10;
 
     /** Divisible by every number of travellers, so that a place shared by some is cut without a rest. */
@@ -416,10 +416,12 @@ public final class PleatRoads {
 
     private void tryPair(int one, int other, int pair) {
         supposed.takeFrom(now);
-        int oneStepped = supposed.choose(one, pair / CHOICES) ? 1 : 0;
-        int otherStepped = supposed.choose(other, pair % CHOICES) ? 1 : 0;
-        gainsOfOne[pair] = oneStepped + gainOfPlaces(one, other);
-        gainsOfOther[pair] = otherStepped + gainOfPlaces(other, one);
+        int ofOne = pair / CHOICES;
+        int ofOther = pair % CHOICES;
+        boolean oneStepped = ofOne != STAND && supposed.stepIfItCan(one, ofOne == ON);
+        boolean otherStepped = ofOther != STAND && supposed.stepIfItCan(other, ofOther == ON);
+        gainsOfOne[pair] = (oneStepped ? 1 : 0) + gainOfPlaces(one, other);
+        gainsOfOther[pair] = (otherStepped ? 1 : 0) + gainOfPlaces(other, one);
     }
 
     private int gainOfPlaces(int mine, int theirs) {
@@ -527,9 +529,12 @@ public final class PleatRoads {
             }
             int cost = stiffness[pleat] + frost;
             if (kind == CRACKED) {
-                cost = Math.max(1, cost / 2);
+                cost = cost / 2;
             }
-            return (greased >> pleat & 1) == 1 ? Math.max(1, cost - 2) : cost;
+            if ((greased >> pleat & 1) == 1) {
+                cost -= 2;
+            }
+            return cost < 1 ? 1 : cost;
         }
 
         static int tollFor(int travellerKind, int cost) {
@@ -710,12 +715,7 @@ public final class PleatRoads {
             return frost < MOST_FROST;
         }
 
-        /** Whether the step was one: who chooses to stand, or can't step, stands. */
-        boolean choose(int traveller, int choice) {
-            return (choice == BACK || choice == ON) && stepIfItCan(traveller, choice == ON);
-        }
-
-        private boolean stepIfItCan(int traveller, boolean on) {
+        boolean stepIfItCan(int traveller, boolean on) {
             boolean can = canStep(traveller, on);
             if (can) {
                 doStep(traveller, on);
@@ -876,7 +876,7 @@ public final class PleatRoads {
         private int windBeyond(int node, boolean on) {
             int place = node / MODES;
             int pleat = on ? place : place - 1;
-            if (!road.hasPleat(pleat)) {
+            if (pleat < 0 || pleat >= road.pleats) {
                 return -1;
             }
             boolean open = node % MODES == (on ? AHEAD : BEHIND);

@@ -646,15 +646,14 @@ public final class PromiseTest {
         due("lungs", x.rests(0, 1, 0), 2);
         due("lungs on, the other back or stands", x.rests(0, 1, 1), 10);
         due("nothing changed", x.count(3) + x.count(6), 0);
-        // The one flees, the other one follows for nothing: no pair holds.
-        boolean none = false;
-        for (int a = 1; a <= 9 && !none; a++) {
-            for (int kinds = 0; kinds < 16 && !none; kinds++) {
-                PleatRoads y = on("RF10F10T1" + a + (kinds / 4) + "T1" + a + (kinds % 4));
-                none = y.rests(0, 1, 0) == 0;
-                due("none and the first go together", y.rests(0, 1, 1) == NONE ? 1 : 0, none ? 1 : 0);
-            }
-        }
+        // The other one, come to 2, gets its breath at the inn and reaches 1; it goes after the one, and the one goes.
+        x = on("RF32F62F13T163T050T153");
+        x.step(0, true);
+        x.freeze();
+        x.step(1, true);
+        x.step(2, true);
+        due("no pair holds", x.rests(0, 1, 0), 0);
+        due("no pair holds", x.rests(0, 1, 1), NONE);
     }
 
     private static void icy() {
@@ -698,6 +697,10 @@ public final class PromiseTest {
         PleatRoads v = on("RF10F10F10F10F10F10F10F10T080");
         due("all eight", v.icy(0, 8, 1, true), 43046721);
         due("all eight", v.icy(0, 8, 1, false), 100000000);
+        PleatRoads u = on("RF93F10T010");
+        due("an inn takes no ice", u.icy(0, 1, 10, true), 1);
+        due("a pleat behind it does", u.icy(0, 2, 10, true), 0);
+        due("half", u.icy(0, 2, 5, false), 2);
     }
 
     private static void seed() {
