@@ -79,8 +79,68 @@ final class Edges {
         alike("behind " + call, touched, made.get());
     }
 
+    /** A call on the busy road that answers as is due, and behind which all is as told here, number by number. */
     static void leavesBusy(String call, ToLongFunction<PleatRoads> calling, long want) {
         leavesAll(call, Edges::busy, calling, want);
+        String when = "behind " + call + " ";
+        Supplier<PleatRoads> touched = () -> {
+            PleatRoads x = busy();
+            calling.applyAsLong(x);
+            return x;
+        };
+        // Each on an object of its own: what one look would spoil, another one must not hide.
+        busyCounts(when, touched.get());
+        busyPleatsAndTravellers(when, touched.get());
+        busyActs(when, touched.get());
+        busySlots(when, touched.get());
+        busyTextSeedAndHearsay(when, touched.get());
+    }
+
+    private static void busyCounts(String when, PleatRoads x) {
+        int[] counts = {8, 4, 4, 4, 1, 5, 4, 7, 19, 6, 2};
+        for (int what = 0; what <= 10; what++) {
+            due(when + "count(" + what + ")", x.count(what), counts[what]);
+        }
+    }
+
+    private static void busyPleatsAndTravellers(String when, PleatRoads x) {
+        int[][] pleats = {{5, 0, 4, 1, 0}, {3, 1, 2, 0, 0}, {4, 2, 0, 1, 1}, {9, 3, 1, 0, 0}};
+        int[][] travellers = {{1, 9, 0, 4, 4, 2}, {0, 6, 1, 4, NONE, 2}, {2, 8, 2, 8, 3, 1}, {2, 6, 3, 3, 2, 0}};
+        for (int i = 0; i < 4; i++) {
+            for (int what = 0; what <= 4; what++) {
+                due(when + "pleat(" + i + ", " + what + ")", x.pleat(i, what), pleats[i][what]);
+            }
+            for (int what = 0; what <= 5; what++) {
+                due(when + "traveller(" + i + ", " + what + ")", x.traveller(i, what), travellers[i][what]);
+            }
+        }
+    }
+
+    private static void busyActs(String when, PleatRoads x) {
+        int[] winds = {22, 22, 24, 24, 24, 29};
+        for (int left = 5; left >= 0; left--) {
+            due(when + "undo()", x.undo(), left);
+            due(when + left + " are left, wind", x.count(8), winds[5 - left]);
+        }
+        due(when + "undo()", x.undo(), STATE);
+    }
+
+    private static void busySlots(String when, PleatRoads x) {
+        due(when + "again(1)", x.again(1), 3);
+        due(when + "again(1), wind", x.count(8), 22);
+        due(when + "again(0)", x.again(0), 1);
+        due(when + "again(0), wind", x.count(8), 24);
+    }
+
+    private static void busyTextSeedAndHearsay(String when, PleatRoads x) {
+        due(when + "who(0)", x.who(0), 11);
+        due(when + "seed(77)", x.seed(77), 77);
+        due(when + "road()", x.road(), 11);
+        due(when + "who(0) of the new road", x.who(0), 29);
+        due(when + "pleat(0, 0)", x.pleat(0, 0), 7);
+        due(when + "pleat(0, 1)", x.pleat(0, 1), 1);
+        due(when + "traveller(0, 1)", x.traveller(0, 1), 8);
+        due(when + "traveller(0, 2)", x.traveller(0, 2), 2);
     }
 
     /** All that can be seen of two objects is alike; both are used up by it. */

@@ -162,6 +162,14 @@ public final class ChanceEdgesTest {
         restsAre(on("RF13T010T010"), 0, 1, 4, 1);
     }
 
+    static void p24_toStandApartIsMoreThanToStepToOnePlace() {
+        PleatRoads x = on("RF30F90T030T120T293");
+        x.step(2, false);
+        due("count(6)", x.count(6), 2);
+        // The other one can step on alone, through what is open, if the one stands: 2 and 3. The one's step shuts it: 1 and 0.
+        restsAre(x, 0, 1, 2, 1);
+    }
+
     // ---- promise 25
 
     private static void icyIs(PleatRoads x, int place, int tenths, int above, int below) {
@@ -292,6 +300,7 @@ public final class ChanceEdgesTest {
         due("seed(5)", x.seed(5), 77);
         due("seed(77)", x.seed(77), 5);
         Edges.alike("behind the same seed", x, Edges.busy());
+        Edges.leavesBusy("seed(77)", y -> y.seed(77), 77);
     }
 
     // ---- promise 27

@@ -174,14 +174,26 @@ public final class RoadEdgesTest {
     }
 
     static void p03_theRoadAndAllElseStay() {
-        PleatRoads x = Edges.busy();
-        due("wipe()", x.wipe(), 8);
-        Edges.tell(x, "RF71T082");
-        Edges.alike("behind a wipe and the same letters", x, Edges.busy());
-        PleatRoads y = on("RF10T010");
-        y.wipe();
-        due("count(1)", y.count(1), 1);
-        due("step(0, true)", y.step(0, true), 1);
+        PleatRoads x = on("RF50F92T093");
+        x.hear(1, 1);
+        x.seed(9);
+        x.freeze();
+        x.keep(0);
+        x.step(0, true);
+        x.grease(0);
+        x.keep(1);
+        int[] want = {0, 2, 1, 1, 1, 3, 1, 2, 3, 3, 1};
+        due("wipe()", x.wipe(), 11);
+        for (int what = 0; what <= 10; what++) {
+            due("count(" + what + ")", x.count(what), want[what]);
+        }
+        due("pleat(1, 0)", x.pleat(1, 0), 9);
+        due("traveller(0, 1)", x.traveller(0, 1), 9);
+        due("who(0)", x.who(0), 22);
+        due("seed(9)", x.seed(9), 9);
+        due("undo()", x.undo(), 2);
+        due("again(1)", x.again(1), 1);
+        due("again(0)", x.again(0), 0);
     }
 
     // ---- promise 4
@@ -314,6 +326,15 @@ public final class RoadEdgesTest {
         due("fault()", x.fault(), 2);
         Edges.tell(x, "R");
         due("fault()", x.fault(), NONE);
+        // The letters that would end it were there once.
+        Edges.tell(x, "RF10");
+        Edges.tell(x, "RF1");
+        due("fault() of RF1", x.fault(), 3);
+        Edges.tell(x, "RT010");
+        Edges.tell(x, "RT01");
+        due("fault() of RT01", x.fault(), 4);
+        x.wipe();
+        due("fault() of nothing", x.fault(), 0);
     }
 
     static void p04_itChangesNothing() {

@@ -1,6 +1,6 @@
 /** The edges of promises 28 to 30: slots, and what is counted. */
 public final class SlotEdgesTest {
-    private static final int UNKNOWN = -1, OUTSIDE = -2, STATE = -3;
+    private static final int UNKNOWN = -1, OUTSIDE = -2, STATE = -3, NONE = -9;
 
     private static void due(String call, long got, long want) {
         Edges.due(call, got, want);
@@ -28,6 +28,14 @@ public final class SlotEdgesTest {
         due("traveller(0, 0)", x.traveller(0, 0), 0);
         due("again(1)", x.again(1), 1);
         due("traveller(0, 0)", x.traveller(0, 0), 1);
+        PleatRoads y = on("RF10F10T090");
+        y.keep(1);
+        y.step(0, true);
+        y.keep(0);
+        due("again(1)", y.again(1), 0);
+        due("traveller(0, 0)", y.traveller(0, 0), 0);
+        due("again(0)", y.again(0), 1);
+        due("traveller(0, 0)", y.traveller(0, 0), 1);
     }
 
     static void p28_aSlotIsKeptOver() {
@@ -43,8 +51,12 @@ public final class SlotEdgesTest {
     static void p28_itChangesNothingButTheSlot() {
         PleatRoads x = Edges.busy();
         due("keep(1)", x.keep(1), 4);
-        due("count(9)", x.count(9), 6);
-        due("count(3)", x.count(3), 4);
+        int[] counts = {8, 4, 4, 4, 1, 5, 4, 7, 19, 6, 2};
+        for (int what = 0; what <= 10; what++) {
+            due("count(" + what + ")", x.count(what), counts[what]);
+        }
+        due("seed(77)", x.seed(77), 77);
+        due("fault()", x.fault(), NONE);
         due("undo()", x.undo(), 5);
         due("again(0)", x.again(0), 1);
     }
