@@ -94,6 +94,31 @@ public final class LanguageTest {
         }
     }
 
+    /** Rule 11 on the length of methods; and no call makes an object, so that every run has room enough. */
+    private static void methods() throws Exception {
+        Pattern header = Pattern.compile("( +)(?:(?:public|private|static|final) )*(?:\\w+(?:\\[\\])? )?(\\w+)\\(.*\\) \\{");
+        String end = null;
+        String name = "";
+        int begin = 0;
+        int found = 0;
+        String[] lines = Files.readString(Path.of("src/main/java/PleatRoads.java")).split("\n");
+        for (int i = 0; i < lines.length; i++) {
+            Matcher m = header.matcher(lines[i]);
+            if (end == null && m.matches()) {
+                end = m.group(1) + "}";
+                name = m.group(2);
+                begin = i;
+                found++;
+            } else if (lines[i].equals(end)) {
+                check(i - begin < 60, name + " is " + (i - begin) + " lines long");
+                end = null;
+            } else if (end != null && lines[i].contains("new ")) {
+                check(Character.isUpperCase(name.charAt(0)), name + " makes an object");
+            }
+        }
+        check(end == null && found > 90, "only " + found + " methods were seen");
+    }
+
     private static final int[] WILD = {Integer.MIN_VALUE, -65536, -33, -32, -10, -9, -2, -1, 0, 1, 2, 3, 4, 5, 6, 7, 9, 10,
         11, 31, 32, 33, 63, 64, 255, 256, 65536, Integer.MAX_VALUE};
     private static final long[] WILD_LONGS = {Long.MIN_VALUE, -1, 0, 1, 99, 999, 1000, 999999999999L, 1000000000000L, Long.MAX_VALUE};
@@ -158,6 +183,7 @@ public final class LanguageTest {
     public static void main(String[] args) throws Exception {
         face();
         source();
+        methods();
         wild();
         System.out.println(wrong == 0 ? "the face and the rules are kept" : wrong + " rules are broken");
         if (wrong != 0) {
